@@ -461,7 +461,7 @@ public final class CombersSociety {
         boolean fellShort;
         final int[] fevers;
         final int[] heats;
-        // How many comb at each pot in this week, counted ahead of its fire.
+        // How many comb at each pot; only as of the last countCombers(), so not copied.
         final int[] combing;
         final Member[] members;
 
@@ -531,13 +531,19 @@ public final class CombersSociety {
         }
 
         int combersAt(int pot) {
-            int there = 0;
+            countCombers();
+            return pot >= 0 && pot < POTS ? combing[pot] : 0;
+        }
+
+        void countCombers() {
+            for (int pot = 0; pot < POTS; pot++) {
+                combing[pot] = 0;
+            }
             for (Member one : members) {
-                if (one.combs() && one.pot == pot) {
-                    there++;
+                if (one.combs()) {
+                    combing[one.pot]++;
                 }
             }
-            return there;
         }
 
         int howMany(int health) {
@@ -618,8 +624,8 @@ public final class CombersSociety {
         }
 
         void lightFires() {
+            countCombers();
             for (int pot = 0; pot < POTS; pot++) {
-                combing[pot] = combersAt(pot);
                 if (combing[pot] > 0 && coals > 0) {
                     coals--;
                     heats[pot] = Math.min(MOST_HEAT, heats[pot] + 3);

@@ -10,6 +10,15 @@ final class Check {
     private Check() {
     }
 
+    /** A society with members of these skills and strengths, two numbers each. */
+    static CombersSociety with(int... skillsAndStrengths) {
+        CombersSociety society = new CombersSociety();
+        for (int i = 0; i + 1 < skillsAndStrengths.length; i += 2) {
+            society.join(skillsAndStrengths[i], skillsAndStrengths[i + 1]);
+        }
+        return society;
+    }
+
     static void same(String call, long due, long got) {
         judge(due == got, call, "" + due, "" + got);
     }

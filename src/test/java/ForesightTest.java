@@ -8,6 +8,7 @@ public final class ForesightTest {
     public static void main(String[] args) {
         foresee();
         foreseeAsPassed();
+        foreseeInASickness();
         earns();
         earnsShortOfWoolAndCoals();
         dies();
@@ -21,16 +22,8 @@ public final class ForesightTest {
         Check.end();
     }
 
-    private static CombersSociety with(int... skillsAndStrengths) {
-        CombersSociety society = new CombersSociety();
-        for (int i = 0; i + 1 < skillsAndStrengths.length; i += 2) {
-            society.join(skillsAndStrengths[i], skillsAndStrengths[i + 1]);
-        }
-        return society;
-    }
-
     private static void foresee() {
-        CombersSociety society = with(5, 5);
+        CombersSociety society = Check.with(5, 5);
         int[] wrongWeeks = {-1, 0, 61, Integer.MIN_VALUE, Integer.MAX_VALUE};
         for (int weeks : wrongWeeks) {
             Check.refuses(society, "foresee(" + weeks + ", 2)", BAD_ARGUMENT, () -> society.foresee(weeks, 2));
@@ -46,7 +39,7 @@ public final class ForesightTest {
     private static void foreseeAsPassed() {
         int[] spans = {1, 2, 3, 7, 60};
         for (int weeks : spans) {
-            CombersSociety society = with(5, 1, 6, 7, 9, 20, 2, 13, 7, 3);
+            CombersSociety society = Check.with(5, 1, 6, 7, 9, 20, 2, 13, 7, 3);
             for (int i = 0; i < 5; i++) {
                 society.place(i, i % 3);
             }
@@ -66,8 +59,21 @@ public final class ForesightTest {
         }
     }
 
+    /** From the second week of a sickness on: 5 and 5 coins are paid yet, then 2. */
+    private static void foreseeInASickness() {
+        CombersSociety society = Check.with(1, 9, 1, 7);
+        society.setDues(0);
+        society.place(1, 0);
+        society.setFever(0, 0);
+        society.pass(1);
+        Check.same("the third week of it", 55 - 5 - 5, society.foresee(2, 5));
+        Check.same("the fourth week of it, and a club night", 55 - 5 - 5 - 2 + 2, society.foresee(3, 5));
+        Check.same("sick behind 3 weeks", 1, society.foresee(3, 3));
+        Check.same("well behind 4 weeks", 0, society.foresee(4, 3));
+    }
+
     private static void earns() {
-        CombersSociety society = with(5, 9);
+        CombersSociety society = Check.with(5, 9);
         for (int member : NO_MEMBERS) {
             Check.refuses(society, "earns(" + member + ")", BAD_INDEX, () -> society.earns(member));
         }
@@ -82,7 +88,7 @@ public final class ForesightTest {
         Check.same("the fever comes later", 5, society.earns(0));
         society.pass(1);
         Check.same("sick", 0, society.earns(0));
-        CombersSociety dying = with(5, 1);
+        CombersSociety dying = Check.with(5, 1);
         dying.place(0, 0);
         dying.setFever(0, 0);
         Check.same("before the death", 4, dying.earns(0));
@@ -91,7 +97,7 @@ public final class ForesightTest {
     }
 
     private static void earnsShortOfWoolAndCoals() {
-        CombersSociety society = with(9, 9, 9, 9, 9, 9);
+        CombersSociety society = Check.with(9, 9, 9, 9, 9, 9);
         for (int i = 0; i < 3; i++) {
             society.place(i, i);
         }
@@ -114,7 +120,7 @@ public final class ForesightTest {
     }
 
     private static void dies() {
-        CombersSociety society = with(5, 3);
+        CombersSociety society = Check.with(5, 3);
         for (int member : NO_MEMBERS) {
             Check.refuses(society, "dies(" + member + ")", BAD_INDEX, () -> society.dies(member));
         }
@@ -135,7 +141,7 @@ public final class ForesightTest {
     private static void diesAsItComes() {
         for (int strength = 1; strength <= 20; strength++) {
             for (int fevers = 1; fevers < 256; fevers += 6) {
-                CombersSociety society = with(5, strength);
+                CombersSociety society = Check.with(5, strength);
                 society.place(0, 0);
                 setFevers(society, fevers);
                 int foreseen = society.dies(0);
@@ -163,7 +169,7 @@ public final class ForesightTest {
 
     /** A box that falls slowly to its first lack, a sick pay of less than 5 coins 105 weeks later. */
     private static void lastsAtTheEdge() {
-        CombersSociety society = with(9, 1, 1, 20, 2, 9);
+        CombersSociety society = Check.with(9, 1, 1, 20, 2, 9);
         society.place(0, 1);
         society.setDues(3);
         society.pass(58);
@@ -181,7 +187,7 @@ public final class ForesightTest {
     private static void lastsOfSickPay() {
         CombersSociety nobody = new CombersSociety();
         Check.same("lasts of nobody", -1, nobody.lasts());
-        CombersSociety society = with(1, 9, 1, 9);
+        CombersSociety society = Check.with(1, 9, 1, 9);
         society.setDues(0);
         society.place(0, 0);
         society.setFever(2, 0);
@@ -191,7 +197,7 @@ public final class ForesightTest {
         long before = society.digest();
         Check.same("a coin too few", 6, society.lasts());
         Check.same("nothing is changed", before, society.digest());
-        CombersSociety poor = with(1, 9);
+        CombersSociety poor = Check.with(1, 9);
         poor.setDues(0);
         poor.place(0, 0);
         poor.setFever(0, 0);
@@ -199,7 +205,7 @@ public final class ForesightTest {
         Check.same("5 coins are enough at first", 2, poor.lasts());
         poor.pass(1);
         Check.same("in the coming week", 1, poor.lasts());
-        CombersSociety poorer = with(1, 9);
+        CombersSociety poorer = Check.with(1, 9);
         poorer.setDues(0);
         poorer.place(0, 0);
         poorer.setFever(0, 0);
@@ -213,7 +219,7 @@ public final class ForesightTest {
         int[] coals = {47, 48, 49};
         int[] due = {-1, -1, 1};
         for (int i = 0; i < coals.length; i++) {
-            CombersSociety society = with(1, 1);
+            CombersSociety society = Check.with(1, 1);
             society.place(0, 0);
             society.setFever(0, 0);
             society.buy(0, coals[i]);
@@ -223,7 +229,7 @@ public final class ForesightTest {
 
     /** With three unpaid weeks nothing is due to the sick one, and the funeral is the first lack. */
     private static void lastsWithoutSickPay() {
-        CombersSociety society = with(1, 4, 1, 9);
+        CombersSociety society = Check.with(1, 4, 1, 9);
         society.give(0, 1, 10);
         society.pass(3);
         society.buy(0, society.count(5));
@@ -235,7 +241,7 @@ public final class ForesightTest {
     }
 
     private static void advise() {
-        CombersSociety society = with(9, 9);
+        CombersSociety society = Check.with(9, 9);
         for (int member : NO_MEMBERS) {
             Check.refuses(society, "advise(" + member + ")", BAD_INDEX, () -> society.advise(member));
         }
@@ -251,20 +257,20 @@ public final class ForesightTest {
         society.setFever(3, 0);
         society.setFever(2, 0);
         Check.same("a fever elsewhere", 2, society.advise(0));
-        CombersSociety crowd = with(9, 9, 9, 9, 9, 9, 9, 9, 9, 9);
+        CombersSociety crowd = Check.with(9, 9, 9, 9, 9, 9, 9, 9, 9, 9);
         crowd.buy(1, 180);
         for (int i = 0; i < 4; i++) {
             crowd.place(i, 0);
         }
         Check.same("four others are there", 1, crowd.advise(4));
         Check.same("three others are there", 1, crowd.advise(3));
-        CombersSociety woolless = with(9, 9, 9, 9);
+        CombersSociety woolless = Check.with(9, 9, 9, 9);
         woolless.place(0, 0);
         woolless.place(1, 1);
         woolless.pass(10);
         Check.same("no wool", 0, woolless.count(7));
         Check.same("no tops more at any pot", 0, woolless.advise(1));
-        CombersSociety full = with(1, 9, 1, 9, 1, 9, 1, 9, 1, 9, 1, 9, 1, 9, 1, 9, 1, 9, 1, 9, 1, 9, 9, 9);
+        CombersSociety full = Check.with(1, 9, 1, 9, 1, 9, 1, 9, 1, 9, 1, 9, 1, 9, 1, 9, 1, 9, 1, 9, 1, 9, 9, 9);
         for (int i = 0; i < 8; i++) {
             full.place(i, i / 4);
         }
@@ -277,7 +283,7 @@ public final class ForesightTest {
     }
 
     private static void adviseOfTheSickAndDead() {
-        CombersSociety society = with(9, 20, 9, 15, 9, 1);
+        CombersSociety society = Check.with(9, 20, 9, 15, 9, 1);
         for (int i = 0; i < 3; i++) {
             society.place(i, 1);
         }

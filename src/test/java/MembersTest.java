@@ -14,6 +14,7 @@ public final class MembersTest {
         settle();
         told();
         toldOfSickness();
+        toldOfOneDeadInDebt();
         owes();
         Check.end();
     }
@@ -208,6 +209,28 @@ public final class MembersTest {
         for (int what = 0; what < dead.length; what++) {
             Check.same("told of a dead one " + what, dead[what], society.told(1, what));
         }
+    }
+
+    private static void toldOfOneDeadInDebt() {
+        CombersSociety society = new CombersSociety();
+        society.join(4, 1);
+        society.join(4, 9);
+        society.give(0, 1, 10);
+        society.pass(4);
+        Check.same("marks before", 1, society.told(0, 3));
+        Check.same("unpaid weeks before", 4, society.told(0, 4));
+        Check.same("who owes before", 0, society.owes());
+        society.buy(1, 9);
+        society.place(0, 1);
+        society.setFever(4, 1);
+        society.setFever(5, 1);
+        society.pass(2);
+        int[] dead = {4, 0, 0, 0, 0, -1, 2, 0, 0};
+        for (int what = 0; what < dead.length; what++) {
+            Check.same("told of one dead in debt " + what, dead[what], society.told(0, what));
+        }
+        Check.same("who owes then", -1, society.owes());
+        Check.same("marks of all", 0, society.count(10));
     }
 
     private static void owes() {

@@ -17,16 +17,9 @@ public final class WeeksTest {
         marksBeyondTwelve();
         clubNightOfTheSick();
         funeral();
+        funeralPaidWithTheLastCoin();
         funeralsOutOfASmallBox();
         Check.end();
-    }
-
-    private static CombersSociety with(int... skillsAndStrengths) {
-        CombersSociety society = new CombersSociety();
-        for (int i = 0; i + 1 < skillsAndStrengths.length; i += 2) {
-            society.join(skillsAndStrengths[i], skillsAndStrengths[i + 1]);
-        }
-        return society;
     }
 
     private static void weeks() {
@@ -45,7 +38,7 @@ public final class WeeksTest {
     }
 
     private static void fire() {
-        CombersSociety society = with(5, 9, 5, 9);
+        CombersSociety society = Check.with(5, 9, 5, 9);
         society.place(0, 1);
         int[] heats = {3, 6, 9, 9};
         for (int heat : heats) {
@@ -72,7 +65,7 @@ public final class WeeksTest {
     }
 
     private static void combing() {
-        CombersSociety society = with(1, 9, 2, 9, 9, 9, 8, 9);
+        CombersSociety society = Check.with(1, 9, 2, 9, 9, 9, 8, 9);
         for (int i = 0; i < 4; i++) {
             society.place(i, 0);
         }
@@ -97,7 +90,7 @@ public final class WeeksTest {
     }
 
     private static void combingShortOfWool() {
-        CombersSociety society = with(9, 9, 9, 9, 9, 9);
+        CombersSociety society = Check.with(9, 9, 9, 9, 9, 9);
         society.setDues(0);
         society.place(0, 2);
         society.place(1, 0);
@@ -126,7 +119,7 @@ public final class WeeksTest {
         int[] strengths = {20, 19, 16, 15, 12, 11, 8, 7, 4, 3};
         int[] weeks = {1, 2, 2, 3, 3, 4, 4, 5, 5, 6};
         for (int i = 0; i < strengths.length; i++) {
-            CombersSociety society = with(1, strengths[i]);
+            CombersSociety society = Check.with(1, strengths[i]);
             society.place(0, 0);
             society.setFever(0, 0);
             society.pass(1);
@@ -137,7 +130,7 @@ public final class WeeksTest {
             Check.same("sick" + who, weeks[i] == 1 ? 0 : 1, society.told(0, 6));
         }
         for (int strength = 1; strength <= 3; strength++) {
-            CombersSociety society = with(1, strength);
+            CombersSociety society = Check.with(1, strength);
             society.place(0, 0);
             society.setFever(0, 0);
             for (int week = 1; week < strength; week++) {
@@ -148,7 +141,7 @@ public final class WeeksTest {
             Check.same("dead", 2, society.told(0, 6));
             Check.same("at no pot", -1, society.told(0, 5));
         }
-        CombersSociety society = with(1, 5);
+        CombersSociety society = Check.with(1, 5);
         society.place(0, 0);
         society.setFever(0, 0);
         society.pass(4);
@@ -158,7 +151,7 @@ public final class WeeksTest {
     }
 
     private static void feverOnlyWhereSomebodyCombs() {
-        CombersSociety society = with(1, 9, 1, 9, 1, 9);
+        CombersSociety society = Check.with(1, 9, 1, 9, 1, 9);
         society.place(0, 0);
         society.place(1, 1);
         society.setFever(0, 1);
@@ -177,7 +170,7 @@ public final class WeeksTest {
     }
 
     private static void feverComesBackEveryEightWeeks() {
-        CombersSociety society = with(1, 20);
+        CombersSociety society = Check.with(1, 20);
         society.place(0, 2);
         society.setFever(7, 2);
         society.pass(7);
@@ -191,7 +184,7 @@ public final class WeeksTest {
     }
 
     private static void sickPay() {
-        CombersSociety society = with(1, 7);
+        CombersSociety society = Check.with(1, 7);
         society.place(0, 0);
         society.setFever(0, 0);
         int[] paid = {5, 10, 15, 17, 19, 19};
@@ -211,7 +204,7 @@ public final class WeeksTest {
         int[] unpaid = {2, 3};
         int[] due = {5, 0};
         for (int i = 0; i < unpaid.length; i++) {
-            CombersSociety society = with(1, 19, 1, 9);
+            CombersSociety society = Check.with(1, 19, 1, 9);
             society.setDues(1);
             society.give(0, 1, 10);
             society.pass(unpaid[i]);
@@ -226,7 +219,7 @@ public final class WeeksTest {
     }
 
     private static void sickPayOutOfAnEmptyBox() {
-        CombersSociety society = with(1, 9, 1, 9, 1, 9);
+        CombersSociety society = Check.with(1, 9, 1, 9, 1, 9);
         for (int i = 0; i < 3; i++) {
             society.place(i, i);
         }
@@ -243,7 +236,7 @@ public final class WeeksTest {
     }
 
     private static void dues() {
-        CombersSociety society = with(1, 9, 1, 9);
+        CombersSociety society = Check.with(1, 9, 1, 9);
         society.setDues(3);
         society.give(0, 1, 5);
         Check.same("both pay", 6, society.pass(1));
@@ -265,7 +258,7 @@ public final class WeeksTest {
     }
 
     private static void duesOfWhoGotWell() {
-        CombersSociety society = with(1, 20, 1, 12);
+        CombersSociety society = Check.with(1, 20, 1, 12);
         society.place(0, 0);
         society.place(1, 0);
         society.setFever(0, 0);
@@ -276,7 +269,7 @@ public final class WeeksTest {
     }
 
     private static void clubNight() {
-        CombersSociety society = with(1, 9, 1, 20, 1, 1);
+        CombersSociety society = Check.with(1, 9, 1, 20, 1, 1);
         society.setDues(0);
         society.give(0, 1, 10);
         society.give(2, 1, 3);
@@ -300,7 +293,7 @@ public final class WeeksTest {
     }
 
     private static void marksBeyondTwelve() {
-        CombersSociety society = with(1, 1, 1, 9);
+        CombersSociety society = Check.with(1, 1, 1, 9);
         society.setDues(0);
         society.give(0, 1, 10);
         society.pass(44);
@@ -324,7 +317,7 @@ public final class WeeksTest {
     }
 
     private static void clubNightOfTheSick() {
-        CombersSociety society = with(1, 9, 1, 20);
+        CombersSociety society = Check.with(1, 9, 1, 20);
         society.place(0, 0);
         society.place(1, 0);
         society.setDues(0);
@@ -338,7 +331,7 @@ public final class WeeksTest {
     }
 
     private static void funeral() {
-        CombersSociety society = with(1, 1, 1, 9, 1, 9, 1, 1);
+        CombersSociety society = Check.with(1, 1, 1, 9, 1, 9, 1, 1);
         society.setDues(0);
         society.give(1, 0, 10);
         society.place(0, 0);
@@ -358,8 +351,20 @@ public final class WeeksTest {
         Check.same("nobody is buried twice", 24, society.count(12));
     }
 
+    private static void funeralPaidWithTheLastCoin() {
+        CombersSociety society = Check.with(1, 1, 1, 9, 1, 9);
+        society.setDues(0);
+        society.give(1, 2, 9);
+        society.give(2, 0, 19);
+        society.place(0, 0);
+        society.setFever(0, 0);
+        Check.same("29 and 2 of the dead one, 1 of another", -12 + 29 + 2 + 1, society.pass(1));
+        Check.same("the last coin", 0, society.told(1, 2));
+        Check.same("no coin", 0, society.told(2, 2));
+    }
+
     private static void funeralsOutOfASmallBox() {
-        CombersSociety society = with(1, 1, 1, 1, 1, 9);
+        CombersSociety society = Check.with(1, 1, 1, 1, 1, 9);
         society.setDues(0);
         society.give(0, 2, 10);
         society.place(0, 0);
