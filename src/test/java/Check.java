@@ -49,6 +49,14 @@ final class Check {
         }
     }
 
+    static int rightSoFar() {
+        return right;
+    }
+
+    static int wrongSoFar() {
+        return wrong;
+    }
+
     static void end() {
         System.out.println(right + " answers as due, " + wrong + " not");
         if (wrong > 0 || right == 0) {
