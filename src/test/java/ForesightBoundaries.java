@@ -75,24 +75,21 @@ final class ForesightBoundaries {
         }
     }
 
-    /** One with 80 coins, who pays dues each week, and marks on each club night. */
-    private static CombersSociety paying() {
-        CombersSociety society = Check.with(1, 20, 1, 20, 1, 20, 1, 20, 1, 20, 1, 20, 1, 20, 1, 20);
-        for (int i = 1; i < 8; i++) {
-            society.give(i, 0, 10);
-        }
+    /** One who burns a coal in each of 60 weeks, out of 90. */
+    private static CombersSociety burning() {
+        CombersSociety society = Check.with(1, 20);
+        society.place(0, 0);
+        society.buy(0, 60);
         return society;
     }
 
     static void foreseeOneToSixtyWeeks() {
-        CombersSociety society = paying();
-        CombersSociety then = paying();
+        CombersSociety society = burning();
         for (int weeks = 1; weeks <= 60; weeks++) {
-            then.pass(1);
-            Check.same("the box behind " + weeks, then.count(5), society.foresee(weeks, 5));
+            Check.same("coals behind " + weeks, 90 - weeks, society.foresee(weeks, 6));
         }
-        Twins.refused(ForesightBoundaries::paying, "0 weeks", BAD_ARGUMENT, s -> s.foresee(0, 5));
-        Twins.refused(ForesightBoundaries::paying, "61 weeks", BAD_ARGUMENT, s -> s.foresee(61, 5));
+        Twins.refused(ForesightBoundaries::burning, "0 weeks", BAD_ARGUMENT, s -> s.foresee(0, 6));
+        Twins.refused(ForesightBoundaries::burning, "61 weeks", BAD_ARGUMENT, s -> s.foresee(61, 6));
     }
 
     static void foreseeTwoToEight() {
@@ -303,14 +300,16 @@ final class ForesightBoundaries {
         Check.same("the well one, who is the only one", 0, society.advise(2));
     }
 
-    /** 4 of the strength 1 dies early at the pots 0 and 1; at 2 there are so many others. */
+    /** 4 has the strength 1, and would die early at the pots 0 and 1; at 2 there are so many others, who are sick. */
     private static CombersSociety safeOnlyAtTwo(int others) {
-        CombersSociety society = Check.with(1, 9, 1, 9, 1, 9, 1, 9, 9, 1);
+        CombersSociety society = Check.with(1, 7, 1, 7, 1, 7, 1, 7, 9, 1);
         for (int i = 0; i < others; i++) {
             society.place(i, 2);
         }
-        society.setFever(0, 0);
-        society.setFever(1, 1);
+        society.setFever(0, 2);
+        society.setFever(1, 0);
+        society.setFever(2, 1);
+        society.pass(1);
         return society;
     }
 
@@ -320,6 +319,11 @@ final class ForesightBoundaries {
         CombersSociety own = safeOnlyAtTwo(3);
         own.place(4, 2);
         Check.same("3 others at the own pot", 2, own.advise(4));
+        CombersSociety harm = betterWithout();
+        int without = harm.foresee(6, 8);
+        Check.same("one who does harm at each pot", 0, harm.advise(9));
+        harm.place(9, 0);
+        Check.judge(harm.foresee(6, 8) < without, "tops with this one", "fewer", "as many");
     }
 
     static void adviseTheSmallestNumber() {
@@ -332,6 +336,29 @@ final class ForesightBoundaries {
         Check.same("1 and 2 alike, and better than 0", 1, fever.advise(0));
         CombersSociety full = placedByFours(4);
         Check.same("1 and 2 alike, and 0 is full", 1, full.advise(4));
+        CombersSociety none = withoutWoolAndTops();
+        none.place(0, -1);
+        none.place(4, -1);
+        Check.same("no tops at any pot", 0, none.advise(11));
+    }
+
+    /** A member who is at no pot, would do harm at each one, and is advised nevertheless. */
+    private static CombersSociety betterWithout() {
+        CombersSociety society = new CombersSociety();
+        for (int i = 0; i < 9; i++) {
+            society.place(society.join(1, 20), i / 3);
+        }
+        society.join(1, 1);
+        society.buy(1, 180);
+        return society;
+    }
+
+    /** Neither wool nor tops are left. */
+    private static CombersSociety withoutWoolAndTops() {
+        CombersSociety society = Scenes.withManyTops();
+        society.sell(500);
+        society.sell(2);
+        return society;
     }
 
     /** 12 members, of whom so many are at the pots, 4 at 0, then 4 at 1, and then at 2. */
@@ -425,18 +452,15 @@ final class ForesightBoundaries {
 
     static void digestWrapsAround() {
         int belowZero = 0;
-        CombersSociety society = busy();
-        for (int week = 0; week < 5; week++) {
+        for (int weeks = 1; weeks <= 12; weeks++) {
+            CombersSociety society = busy();
+            society.pass(weeks);
             BigInteger sum = sumOf(society, 1, -1, 0, -1, 1, -1, 2, 0, -1);
             Check.judge(sum.bitLength() > 64, "the sum", "more than 64 bits", "" + sum.bitLength());
             Check.same("the last 64 bits", sum.longValue(), society.digest());
-            if (sum.testBit(63)) {
-                belowZero++;
-                Check.judge(society.digest() < 0, "a digest with the bit 63", "below 0", "" + society.digest());
-            }
-            society.pass(1);
+            belowZero += society.digest() < 0 ? 1 : 0;
         }
-        Check.judge(belowZero > 0 && belowZero < 5, "digests below 0", "some", "" + belowZero);
+        Check.judge(belowZero > 0 && belowZero < 12, "digests below 0", "some", "" + belowZero);
     }
 
     static void digestOfNoneAndOfTwelveMembers() {

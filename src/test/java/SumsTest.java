@@ -46,19 +46,19 @@ public final class SumsTest {
     }
 
     private static void digestOfAll() {
-        CombersSociety society = new CombersSociety();
         int[] fevers = {2, -1, 0, -1, -1, 1, -1, -1};
-        for (int i = 0; i < 7; i++) {
-            society.join(i + 1, 2 * i + 1);
-            society.place(i, i % 3);
-        }
-        for (int week = 0; week < 8; week++) {
-            society.setFever(week, fevers[week]);
-        }
-        society.setDues(2);
-        for (int weeks = 0; weeks < 20; weeks++) {
-            society.pass(1);
-            Check.same("digest behind " + (weeks + 1) + " weeks", asTold(society, 2, fevers), society.digest());
+        for (int weeks = 1; weeks <= 20; weeks++) {
+            CombersSociety society = new CombersSociety();
+            for (int i = 0; i < 7; i++) {
+                society.join(i + 1, 2 * i + 1);
+                society.place(i, i % 3);
+            }
+            for (int week = 0; week < 8; week++) {
+                society.setFever(week, fevers[week]);
+            }
+            society.setDues(2);
+            society.pass(weeks);
+            Check.same("digest behind " + weeks + " weeks", asTold(society, 2, fevers), society.digest());
         }
     }
 

@@ -254,6 +254,12 @@ final class TermsBoundaries {
         society.pass(1);
         Check.same("none left when well again", 0, society.told(1, 7));
         Check.same("none so far when well again", 0, society.told(1, 8));
+        CombersSociety dying = Scenes.beforeFever(2);
+        dying.pass(1);
+        Check.same("one week so far", 1, dying.told(0, 8));
+        dying.pass(1);
+        Check.same("none left when dead", 0, dying.told(0, 7));
+        Check.same("none so far when dead", 0, dying.told(0, 8));
     }
 
     static void deadHaveNothingLeft() {

@@ -422,6 +422,11 @@ final class WeekBoundaries {
             Check.same("the purse", left[i], society.told(0, 2));
             Check.same("all that the purses lose is the box's", purses - society.count(9), gain);
         }
+        CombersSociety first = Scenes.withMarks(0);
+        Scenes.purse(first, 0, 1, 1);
+        first.pass(4);
+        Check.same("1 mark less 1 coin", 0, first.told(0, 3));
+        Check.same("the purse", 0, first.told(0, 2));
     }
 
     static void oneStrengthMoreUpToTwenty() {
