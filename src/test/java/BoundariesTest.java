@@ -29,7 +29,17 @@ public final class BoundariesTest {
     private BoundariesTest() {
     }
 
+    /** Runs the tests that are named, such as WeekBoundaries.theWeekIsOneGreater; without a name, the whole list. */
     public static void main(String[] args) throws IOException {
+        List<String> tests = args.length > 0 ? List.of(args) : comparedList();
+        for (String test : tests) {
+            run(test);
+        }
+        Check.end();
+    }
+
+    /** The tests of the list, which is compared with the document and with the tests that there are. */
+    private static List<String> comparedList() throws IOException {
         Map<String, List<Piece>> list = readList();
         // The tests need no document, so they run without it too.
         if (Files.exists(DOCUMENT)) {
@@ -46,10 +56,7 @@ public final class BoundariesTest {
             }
         }
         compareWithTheTests(named);
-        for (String test : named) {
-            run(test);
-        }
-        Check.end();
+        return named;
     }
 
     private static Map<String, List<Piece>> readList() throws IOException {

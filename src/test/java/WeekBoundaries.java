@@ -10,8 +10,7 @@ final class WeekBoundaries {
     }
 
     static void firesFromPotZeroOn() {
-        int[][] heats = {{1, 0, 7}, {3, 0, 7}, {3, 3, 7}, {3, 3, 9}};
-        heats[0][0] = 0;
+        int[][] heats = {{0, 0, 7}, {3, 0, 7}, {3, 3, 7}, {3, 3, 9}};
         for (int coals = 0; coals < heats.length; coals++) {
             CombersSociety society = Scenes.withCoals(coals);
             society.place(0, 2);
