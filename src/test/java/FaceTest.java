@@ -1,14 +1,20 @@
+import java.io.IOException;
 import java.lang.reflect.Constructor;
 import java.lang.reflect.Field;
 import java.lang.reflect.Method;
 import java.lang.reflect.Modifier;
+import java.nio.file.Files;
+import java.nio.file.Path;
 import java.util.Arrays;
 import java.util.Set;
 import java.util.TreeSet;
+import java.util.regex.Matcher;
+import java.util.regex.Pattern;
 import java.util.stream.Collectors;
 
-/** The public face, and rule 1 of LANGUAGE.md. */
+/** The public face with what it says ahead of its calls, and rule 1 of LANGUAGE.md. */
 public final class FaceTest {
+    private static final Path SOURCE = Path.of("src/main/java/CombersSociety.java");
     private static final String[] FACE = {
         "int join(int,int) IllegalArgumentException IllegalStateException",
         "int place(int,int) IndexOutOfBoundsException IllegalStateException",
@@ -32,13 +38,18 @@ public final class FaceTest {
         "long digest()"
     };
 
-    public static void main(String[] args) {
+    private static final String SECTIONS = "---- members: join place give settle told owes"
+            + " ---- stores and rules: setFever setDues buy sell pot count"
+            + " ---- weeks and what would be: pass foresee earns dies lasts advise mean digest";
+
+    public static void main(String[] args) throws IOException {
         Class<?> face = CombersSociety.class;
         Check.judge(face.getModifiers() == (Modifier.PUBLIC | Modifier.FINAL), "the class", "public final", "not");
         methods(face);
         constructors(face);
         fields(face);
         classesInside(face);
+        sections();
         Check.end();
     }
 
@@ -89,6 +100,20 @@ public final class FaceTest {
             int modifiers = inside.getModifiers();
             Check.judge(Modifier.isStatic(modifiers), inside.getName(), "static", "not");
             Check.judge((modifiers & (Modifier.PUBLIC | Modifier.PROTECTED)) == 0, inside.getName(), "hidden", "not");
+            for (Method method : inside.getDeclaredMethods()) {
+                boolean isOfTheFace = Arrays.stream(FACE).anyMatch(call -> call.contains(" " + method.getName() + "("));
+                Check.judge(!isOfTheFace, inside.getName() + "." + method.getName(), "no name of the face", "one");
+            }
         }
+    }
+
+    private static void sections() throws IOException {
+        StringBuilder got = new StringBuilder();
+        Pattern headingOrCall = Pattern.compile("(?m)^    (?:// (---- .*)|public \\w+ (\\w+)\\()");
+        Matcher lines = headingOrCall.matcher(Files.readString(SOURCE));
+        while (lines.find()) {
+            got.append(' ').append(lines.group(1) != null ? lines.group(1) + ":" : lines.group(2));
+        }
+        Check.judge(SECTIONS.equals(got.toString().trim()), "the face in its order", SECTIONS, got.toString());
     }
 }
